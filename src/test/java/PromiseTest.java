@@ -411,6 +411,100 @@ public final class PromiseTest {
         due("held", y.letter(2, 0, 1), NONE);
     }
 
+    /** A STEP with four ACTS, and ACTS of the next one that would be told right behind them. */
+    private static void fourActs() {
+        promise = 9;
+        ProtocolBench x = new ProtocolBench();
+        x.role(1);
+        x.own(0, 0, 9, 0);
+        x.shared(0, 9, 0);
+        x.channel(3, true, false);
+        x.channel(1, true, false);
+        int one = number(x, 1), two = number(x, 2);
+        int first = x.step(0, 0, 1, NONE), second = x.step(0, 1, 2, NONE), third = x.step(0, 2, 3, NONE);
+        for (int i = 0; i < 3; i++) {
+            x.act(first, 0, 0, two);
+            x.act(second, 0, 0, two);
+        }
+        x.act(first, 2, 0, one);
+        x.act(third, 3, 0, 0);
+        x.act(second, 2, 0, two);
+        due("a fifth that the next STEP has", x.act(second, 3, 0, 0), FULL);
+        due("search()", x.search(), 5);
+        due("moves(0)", x.moves(0), 1);
+        due("moves(1)", x.moves(1), 1);
+        due("moves(2)", x.moves(2), 2);
+        int fourth = x.step(0, 0, 4, NONE), fifth = x.step(0, 9, 9, NONE);
+        for (int i = 0; i < 4; i++) {
+            x.act(fourth, 0, 0, one);
+        }
+        x.act(fifth, 3, 1, 0);
+        x.search();
+        due("the next STEP could not be done", x.moves(0), 2);
+    }
+
+    /** Three ROLES of three MEMBERS with three OWN VARIABLES each, six SHARED ones, three CHANNELS. */
+    private static void fullSize() {
+        promise = 11;
+        ProtocolBench x = new ProtocolBench();
+        for (int i = 0; i < 6; i++) {
+            x.shared(0, 9, 9 - i);
+        }
+        for (int r = 0; r < 3; r++) {
+            x.role(3);
+            x.end(r, 9);
+            for (int v = 0; v < 3; v++) {
+                x.own(r, 0, 9, 3 * r + v);
+            }
+            x.channel(3, true, true);
+        }
+        int me = x.expr(3, 0, 0, 0), isTwo = x.expr(10, me, number(x, 2), 0), nine = number(x, 9);
+        int mine = x.expr(2, 2, 0, 0), never = number(x, 0);
+        int last = x.step(2, 0, 9, isTwo);
+        x.act(last, 0, 5, nine);
+        x.act(last, 1, 0, nine);
+        x.act(last, 2, 2, mine);
+        int other = x.step(2, 9, 9, NONE);
+        x.act(other, 3, 2, 1);
+        due("search()", x.search(), 4);
+        for (int r = 0; r < 3; r++) {
+            for (int m = 0; m < 3; m++) {
+                boolean moved = r == 2 && m == 2;
+                due("place", x.place(1, r, m), moved ? 9 : 0);
+                due("own 0", x.owned(1, r, m, 0), moved ? 9 : 3 * r);
+                due("own 1", x.owned(1, r, m, 1), 3 * r + 1);
+                due("own 2", x.owned(1, r, m, 2), 3 * r + 2);
+            }
+        }
+        due("letter", x.letter(1, 2, 0), 8);
+        due("RECEIVED", x.owned(2, 2, 2, 1), 8);
+        due("lost", x.move(1, 1, 1), NONE);
+        due("not RECEIVED", x.owned(3, 2, 2, 1), 7);
+        due("stuck()", x.stuck(), 2);
+        for (int r = 0; r < 3; r++) {
+            x.end(r, 0);
+        }
+        due("search()", x.search(), 4);
+        due("all at ENDS", x.stuck(), NONE);
+        due("no KNOT", x.again(never, true), NONE);
+        ProtocolBench y = new ProtocolBench();
+        for (int r = 0; r < 3; r++) {
+            y.role(3);
+        }
+        y.step(2, 0, 1, NONE);
+        y.step(2, 1, 0, NONE);
+        int no = number(y, 0), at = y.expr(4, 2, 1, 0), three = number(y, 3), all = y.expr(10, at, three, 0);
+        due("search()", y.search(), 8);
+        due("a KNOT, fair for nine", y.again(no, true), 0);
+        due("without the STATE of all", y.again(all, true), 0);
+        y.step(0, 0, 1, at);
+        due("search()", y.search(), 8 * 8);
+        due("ROLE 0 has no MOVE where none is at 1", y.again(no, true), 0);
+        int gone = y.expr(4, 0, 1, 0);
+        y.search();
+        due("it may wait for ever", y.again(gone, true), 0);
+    }
+
     private static void order() {
         promise = 9;
         // Not LOOSE: the first LETTER comes first.
@@ -637,6 +731,13 @@ public final class PromiseTest {
         due("moves(399)", x.moves(399), 3);
         due("depth(399)", x.depth(399), 9 + 9 + 3);
         due("classes()", x.classes(), 1);
+        due("stuck() among 400", x.stuck(), NONE);
+        due("always(1) among 400", x.always(1), NONE);
+        due("again(1) among 400", x.again(1, true), NONE);
+        due("again(0) among 400", x.again(0, true), 0);
+        due("fromTo(1, 1) among 400", x.fromTo(1, 1, true), NONE);
+        due("fromTo(0, 0) among 400", x.fromTo(0, 0, true), NONE);
+        due("moves(400)", x.moves(400), UNKNOWN);
         ProtocolBench y = counters(10, 10, 5);
         due("500 STATES", y.search(), SPENT);
         due("count(6)", y.count(6), 400);
@@ -982,6 +1083,28 @@ public final class PromiseTest {
         due("again(at0, fair)", x.again(at0, true), 1);
         due("again(me)", x.again(me, false), OWNED);
         due("again(-1)", x.again(-1, false), UNKNOWN);
+        // A long ring is one KNOT: its least STATE breaks it, and it is come to from each other one.
+        ProtocolBench r = ring(7);
+        int last = r.expr(4, 0, 6, 0), never0 = number(r, 0), first = r.expr(4, 0, 0, 0);
+        r.search();
+        due("a ring of seven", r.again(never0, false), 0);
+        due("a ring of seven, fair", r.again(never0, true), 0);
+        due("cut at its end", r.again(last, false), NONE);
+        due("cut at its start", r.again(first, false), NONE);
+        due("from its end", r.fromTo(last, never0, true), 6);
+        // A KNOT that is first come to by another STATE than its least one: 0 -> 1 -> 3 <-> 2 <- 0.
+        ProtocolBench k = new ProtocolBench();
+        k.role(1);
+        int[][] ways = {{0, 1}, {0, 2}, {1, 3}, {3, 2}, {2, 3}};
+        for (int[] way : ways) {
+            k.step(0, way[0], way[1], NONE);
+        }
+        int nothing = number(k, 0), at2 = k.expr(4, 0, 2, 0), is1 = k.expr(4, 0, 1, 0);
+        k.search();
+        due("place(3)", k.place(3, 0, 0), 3);
+        due("its least STATE", k.again(nothing, false), 2);
+        due("it is cut", k.again(at2, false), NONE);
+        due("from 1", k.fromTo(is1, nothing, true), 1);
         // A ring of its own for one MEMBER while the other one could move all the time.
         ProtocolBench y = new ProtocolBench();
         y.role(1);
@@ -1114,6 +1237,7 @@ public final class PromiseTest {
         keepsSearch(x, "the first again", x.observe(1), OUTSIDE);
         keepsSearch(x, "a ninth, OWNED", x.observe(me), OWNED);
         due("count(5)", x.count(5), 8);
+        due("classes() by eight", x.classes(), 1);
         x.alike(true);
         due("count(5) stays", x.count(5), 8);
     }
@@ -1254,6 +1378,8 @@ public final class PromiseTest {
         steps();
         actRefusals();
         actsAreDone();
+        fourActs();
+        fullSize();
         order();
         waysOfLoose();
         alike();
