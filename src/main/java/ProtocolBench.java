@@ -163,7 +163,10 @@ public final class ProtocolBench {
         }
         // What is told has not changed while a SEARCH is there, so a second one would find the same.
         if (!graph.isThere) {
-            searcher.run();
+            searcher.start();
+            for (int state = 0; state < MOST_STATES && state < graph.states && !graph.isSpent; state++) {
+                searcher.goThrough(state);
+            }
         }
         return graph.isSpent ? SPENT : graph.states;
     }
@@ -837,8 +840,9 @@ public final class ProtocolBench {
         }
 
         private boolean isFirstOfLike(int channel, int i) {
+            int word = words[FIRST_CHANNEL + channel];
             for (int earlier = 0; earlier < i; earlier++) {
-                if (letterAt(channel, earlier) == letterAt(channel, i)) {
+                if (((word >>> (4 * earlier)) & DIGIT) == ((word >>> (4 * i)) & DIGIT)) {
                     return false;
                 }
             }
@@ -890,7 +894,7 @@ public final class ProtocolBench {
             faultStep = NONE;
         }
 
-        void start(Row first) {
+        void begin(Row first) {
             clear();
             Arrays.fill(slots, 0);
             isThere = true;
@@ -1015,34 +1019,25 @@ public final class ProtocolBench {
             this.graph = graph;
         }
 
-        void run() {
+        void start() {
             protocol.setFirst(then);
-            graph.start(then);
-            for (int state = 0; state < MOST_STATES && state < graph.states; state++) {
-                graph.firstMove[state] = graph.moveCount;
-                goThrough(state);
-                if (graph.isSpent) {
-                    return;
-                }
-                graph.firstMove[state + 1] = graph.moveCount;
-            }
+            graph.begin(then);
         }
 
-        private void goThrough(int state) {
+        void goThrough(int state) {
             graph.load(state, now);
+            graph.firstMove[state] = graph.moveCount;
             for (int role = 0; role < protocol.roles.told; role++) {
-                for (int member = 0; member < protocol.roles.members[role]; member++) {
+                for (int member = 0; member < protocol.roles.members[role] && !graph.isSpent; member++) {
                     goMember(state, role, member);
-                    if (graph.isSpent) {
-                        return;
-                    }
                 }
             }
-            for (int channel = 0; channel < protocol.channels; channel++) {
+            for (int channel = 0; channel < protocol.channels && !graph.isSpent; channel++) {
                 if (protocol.losesLetters[channel]) {
                     lose(state, channel);
                 }
             }
+            graph.firstMove[state + 1] = graph.moveCount;
         }
 
         private void goMember(int state, int role, int member) {
@@ -1319,7 +1314,11 @@ public final class ProtocolBench {
                 if (nextMove[state] < graph.firstMove[state + 1]) {
                     follow(state, graph.moveTo[nextMove[state]]);
                 } else {
-                    leave(state);
+                    pathLength--;
+                    handBack(state);
+                    if (lowest[state] == entered[state]) {
+                        close(state);
+                    }
                 }
             }
         }
@@ -1345,11 +1344,9 @@ public final class ProtocolBench {
             }
         }
 
-        private void leave(int state) {
-            pathLength--;
-            if (lowest[state] == entered[state]) {
-                close(state);
-            } else if (pathLength > 0) {
+        /** What a STATE can come back to, the one ahead of it on the path can, too. */
+        private void handBack(int state) {
+            if (pathLength > 0) {
                 int before = path[pathLength - 1];
                 lowest[before] = Math.min(lowest[before], lowest[state]);
             }
