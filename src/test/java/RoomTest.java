@@ -56,7 +56,7 @@ public final class RoomTest {
         long before = bytes();
         ProtocolBench x = new ProtocolBench();
         long made = bytes() - before;
-        // Some 36,000 elements of four bytes: two hundred objects of this size fill the room.
+        // Some 31,000 elements of four bytes: over two hundred objects of this size fill the room.
         check.holds("an object takes " + made + " bytes", made < 160_000);
         before = bytes();
         tell(x);
