@@ -5,6 +5,7 @@ import java.util.HashSet;
 import java.util.List;
 import java.util.Map;
 import java.util.Set;
+import java.util.TreeSet;
 
 /**
  * The document once more, in the slowest and plainest way, with other means than ProtocolBench:
@@ -80,6 +81,7 @@ final class NaiveBench {
     private List<int[]> came = new ArrayList<>();
     private int moveCount = 0;
     private int[] fault = null;
+    private int[] divided = null;
 
     private void end() {
         there = false;
@@ -90,6 +92,7 @@ final class NaiveBench {
         came = new ArrayList<>();
         moveCount = 0;
         fault = null;
+        divided = null;
     }
 
     private static boolean in(int i, List<?> list) {
@@ -526,9 +529,14 @@ final class NaiveBench {
         boolean[] tied = new boolean[n];
         for (int s = 0; s < n; s++) {
             if (!within[s] || !reach[s][s]) continue;
-            Set<Integer> knot = new HashSet<>();
+            Set<Integer> knot = new TreeSet<>();
             for (int t = 0; t < n; t++) {
                 if (reach[s][t] && reach[t][s]) knot.add(t);
+            }
+            int least = knot.iterator().next();
+            if (least < s) {
+                tied[s] = tied[least];
+                continue;
             }
             boolean moving = false;
             for (int x : knot) {
@@ -592,11 +600,17 @@ final class NaiveBench {
         if (observed.contains(e)) return OUTSIDE;
         if (observed.size() == 8) return FULL;
         observed.add(e);
+        divided = null;
         return observed.size();
     }
 
     /** The greatest relation that the document asks for: pairs go until none has to. */
     private int[] division() {
+        if (divided == null) divided = divide();
+        return divided;
+    }
+
+    private int[] divide() {
         int n = states.size();
         boolean[][] same = new boolean[n][n];
         for (int s = 0; s < n; s++) {
@@ -651,7 +665,7 @@ final class NaiveBench {
     }
 
     int[] allClasses() {
-        return division();
+        return division().clone();
     }
 
     int count(int what) {
