@@ -544,6 +544,31 @@ public final class EdgeTest {
         due("moves(0)", y.moves(0), NOT);
     }
 
+    /** The last STATE of a line SENDS 1, then 2; one of the two WAYS to RECEIVE them would find the 401st. */
+    private static void spentAmidWays(int states) {
+        sentence = "SPENT at once, and a SEARCH made anew starts from nothing, behind " + states;
+        ProtocolBench x = new ProtocolBench();
+        x.channel(2, true, false);
+        x.channel(1, false, false);
+        int last = Tell.line(x, states), one = Tell.number(x, 1);
+        x.own(0, 0, 9, 0);
+        x.act(x.step(0, 0, 1, last), 2, 0, one);
+        Tell.send(x, 1, 2, 0, 2);
+        Tell.receive(x, 2, 3, 0, 0);
+        due("search()", x.search(), SPENT);
+        due("count(6)", x.count(6), 400);
+        // From the 100th STATE the line goes on no more, for CHANNEL 1 is empty; now that one SENDS.
+        x.act(2, 3, 1, 0);
+        int hundredth = Tell.both(x, Tell.same(x, 0, 9), Tell.same(x, x.expr(1, 1, 0, 0), 9));
+        x.act(x.step(0, 0, 1, hundredth), 2, 0, one);
+        due("search() anew", x.search(), 104);
+        due("both WAYS", x.moves(101), 2);
+        due("the first", x.owned(102, 0, 0, 0), 1);
+        due("the second", x.owned(103, 0, 0, 0), 2);
+        due("no FAULT", x.fault(0), NONE);
+        due("count(7)", x.count(7), 0);
+    }
+
     private static void madeAnew() {
         sentence = "A SEARCH must be made anew when something is told";
         for (int call = 0; call < 11; call++) {
@@ -746,6 +771,29 @@ public final class EdgeTest {
         }
     }
 
+    private static void usedByEachRole() {
+        sentence = "a VARIABLE that a ROLE whose STEP uses it has not, whichever ROLE that is";
+        for (int lacking = 0; lacking < 3; lacking++) {
+            ProtocolBench x = new ProtocolBench();
+            for (int r = 0; r < 3; r++) {
+                x.role(1);
+                x.own(r, 0, 9, 0);
+            }
+            for (int r = 0; r < 3; r++) {
+                due("a second of " + r, r == lacking ? 1 : x.own(r, 0, 9, 0), 1);
+            }
+            int second = x.expr(2, 1, 0, 0);
+            for (int r = 0; r < 3; r++) {
+                x.step(r, 0, 1, r == lacking ? NONE : second);
+            }
+            due("used by the others alone", x.search(), 2);
+            x.step(lacking, 5, 5, second);
+            due("used by " + lacking, x.search(), NOT);
+            x.own(lacking, 0, 9, 0);
+            due("it has it now", x.search(), 2);
+        }
+    }
+
     // ---- STUCK, FAULT
 
     private static void stuckOrNot() {
@@ -917,6 +965,27 @@ public final class EdgeTest {
         due("it may stay", w.again(left, true), 0);
     }
 
+    private static void fairByItself() {
+        sentence = "It is FAIR (each KNOT by itself)";
+        // ROLE 0 goes round at PLACE 1 or at 2 for ever; at 2 alone the other MEMBER has no MOVE.
+        for (int first = 1; first <= 2; first++) {
+            ProtocolBench x = bench(1);
+            x.role(1);
+            int at1 = x.expr(4, 0, 1, 0), at2 = x.expr(4, 0, 2, 0), gone = x.expr(4, 1, 1, 0);
+            x.step(0, 0, first, NONE);
+            x.step(0, 0, 3 - first, NONE);
+            x.step(0, 1, 1, NONE);
+            x.step(0, 2, 2, NONE);
+            x.step(1, 0, 1, Tell.not(x, at2));
+            x.search();
+            due("from 1, not fair", x.fromTo(at1, gone, false), first == 1 ? 1 : 2);
+            due("from 1, fair", x.fromTo(at1, gone, true), NONE);
+            due("from 2, fair", x.fromTo(at2, gone, true), first == 2 ? 1 : 2);
+            due("again, fair", x.again(gone, true), first == 2 ? 1 : 2);
+            due("again, not fair", x.again(gone, false), 1);
+        }
+    }
+
     private static void lostIsNotForEver() {
         sentence = "what is lost; that a run may do too, but not for ever alone";
         // A MEMBER SENDS again and again what is lost; a second one waits for two LETTERS.
@@ -1044,6 +1113,68 @@ public final class EdgeTest {
         due("classes()", y.classes(), 4);
     }
 
+    private static void manyClasses() {
+        sentence = "(the greatest such division), of many CLASSES";
+        // A line of n STATES at PLACE 0, from each by 1 to 2, and only there it is OBSERVED which one it is.
+        for (int n : new int[] {10, 11, 15, 16, 31, 32, 33, 34, 63, 64, 65, 100, 128, 133}) {
+            ProtocolBench x = new ProtocolBench();
+            Tell.line(x, n);
+            x.step(0, 0, 1, NONE);
+            x.step(0, 1, 2, NONE);
+            int there = x.expr(4, 0, 2, 0);
+            x.observe(there);
+            for (int v = 0; v < 3; v++) {
+                x.observe(x.expr(9, there, x.expr(1, v, 0, 0), 0));
+            }
+            due("search() by " + n, x.search(), 3 * n);
+            due("classes() by " + n, x.classes(), 3 * n);
+            for (int s = 0; s < 3 * n; s += 7) {
+                due("classOf(" + s + ") by " + n, x.classOf(s), s);
+            }
+        }
+        // As above, but only whether the last digit is 3 is OBSERVED: those that lead to like ones are one.
+        ProtocolBench y = new ProtocolBench();
+        Tell.line(y, 100);
+        y.step(0, 0, 1, NONE);
+        y.step(0, 1, 2, NONE);
+        int there = y.expr(4, 0, 2, 0), at1 = y.expr(4, 0, 1, 0);
+        y.observe(Tell.both(y, there, Tell.same(y, 0, 3)));
+        y.observe(Tell.not(y, Tell.both(y, Tell.not(y, there), Tell.not(y, at1))));
+        due("search()", y.search(), 300);
+        due("100 of the line, 2 at PLACE 1, 2 at PLACE 2", y.classes(), 104);
+    }
+
+    /** Leads from a PLACE back to a STATE of the line; a STATE's number beyond the line is none. */
+    private static void leadBack(ProtocolBench x, int place, int state) {
+        if (state < 100) {
+            int s = x.step(0, place, 0, NONE);
+            x.act(s, 0, 0, Tell.number(x, state % 10));
+            x.act(s, 0, 1, Tell.number(x, state / 10));
+        }
+    }
+
+    private static void byOneMoveAlone() {
+        sentence = "to each MOVE of one there is a MOVE of the other one, to STATES in one CLASS";
+        // A line of 100 STATES, each OBSERVED; behind its last two more, which differ by where they lead alone.
+        int[] targets = {0, 1, 30, 31, 32, 33, 62, 63, 64, 65, 95, 96, 99, 100};
+        for (int one : targets) {
+            for (int other : targets) {
+                ProtocolBench x = new ProtocolBench();
+                int last = Tell.line(x, 100), in = x.expr(4, 0, 0, 0);
+                x.observe(in);
+                x.observe(x.expr(9, in, 0, 0));
+                x.observe(x.expr(9, in, x.expr(1, 1, 0, 0), 0));
+                x.step(0, 0, 1, last);
+                x.step(0, 0, 2, last);
+                leadBack(x, 1, one);
+                leadBack(x, 2, other);
+                due("search() to " + one + ", " + other, x.search(), 102);
+                due("classes() to " + one + ", " + other, x.classes(), one == other ? 101 : 102);
+                due("classOf(101) to " + one + ", " + other, x.classOf(101), one == other ? 100 : 101);
+            }
+        }
+    }
+
     private static void lostIsAMove() {
         sentence = "to each MOVE of one (of any sort) there is a MOVE of the other one";
         // STATE with a LETTER that can be lost only, and one where a MEMBER can go only.
@@ -1130,6 +1261,8 @@ public final class EdgeTest {
         lost();
         faultLeadsNowhere();
         spentAtOnce();
+        spentAmidWays(397);
+        spentAmidWays(398);
         madeAnew();
         foundBy();
         firstStateAlone();
@@ -1138,15 +1271,19 @@ public final class EdgeTest {
         alikeRefuses();
         alikeTells();
         usedByRoles();
+        usedByEachRole();
         stuckOrNot();
         firstFault();
         alwaysFirst();
         knots();
         fairTurns();
+        fairByItself();
         lostIsNotForEver();
         fromToCounts();
         classesOf();
         numberedByLeast();
+        manyClasses();
+        byOneMoveAlone();
         lostIsAMove();
         tellsLeast();
         lettersBeyond();
